@@ -113,12 +113,14 @@ public final class ThawPoints {
     public int measure(int thermometer, int bath) throws IndexOutOfBoundsException, IllegalStateException {
         needThermometer(thermometer);
         needBath(bath);
-        if (state.reasonNotToMeasure(thermometer, bath) != 0) {
+        Thermometer row = state.rows[thermometer];
+        int degree = state.baths[bath];
+        if (row.reasonNotToMeasure(degree) != 0) {
             throw new IllegalStateException("it cannot be measured");
         }
         history.push(state);
-        state.addPoint(thermometer, bath);
-        return state.rows[thermometer].points.size;
+        row.addPoint(degree, state.year);
+        return row.points.size;
     }
 
     public int forget(int thermometer, int degree) throws IndexOutOfBoundsException, IllegalArgumentException {
@@ -130,12 +132,13 @@ public final class ThawPoints {
 
     public int paper(int thermometer) throws IndexOutOfBoundsException, IllegalStateException {
         needThermometer(thermometer);
-        if (state.reasonForNoPaper(thermometer) != 0) {
+        Thermometer row = state.rows[thermometer];
+        if (state.reasonForNoPaper(row) != 0) {
             throw new IllegalStateException("it cannot get a paper");
         }
         history.push(state);
-        state.giveSeal(thermometer);
-        return state.rows[thermometer].seal;
+        state.giveSeal(row);
+        return row.seal;
     }
 
     // ---- texts
@@ -167,7 +170,18 @@ public final class ThawPoints {
             throw new IllegalArgumentException("the buffer is not complete works");
         }
         history.push(state);
-        int done = doParts();
+        works.at = 0;
+        int done = 0;
+        int reason = 0;
+        while (done < MAX_SIGNS && reason == 0 && works.readPart()) {
+            reason = tryPart();
+            if (reason == 0) {
+                done++;
+                works.readSign(';');
+            }
+        }
+        state.stopPart = reason == 0 ? NONE : done;
+        state.stopReason = reason == 0 ? NONE : reason;
         works.length = 0;
         return done;
     }
@@ -239,7 +253,7 @@ public final class ThawPoints {
             case 4: return row.points.treeDepth();
             case 5: return row.seal;
             case 6: return state.isValid(row) ? 1 : 0;
-            case 7: return state.reasonForNoPaper(thermometer);
+            case 7: return state.reasonForNoPaper(row);
             case 8: return row.points.widestGap();
             default: throw new IllegalArgumentException("what is not 0 to 8");
         }
@@ -292,7 +306,7 @@ public final class ThawPoints {
     public int whyNot(int thermometer, int bath) throws IndexOutOfBoundsException {
         needThermometer(thermometer);
         needBath(bath);
-        return state.reasonNotToMeasure(thermometer, bath);
+        return state.rows[thermometer].reasonNotToMeasure(state.baths[bath]);
     }
 
     public int overlap(int one, int other, int degree) throws IndexOutOfBoundsException, IllegalArgumentException {
@@ -373,45 +387,57 @@ public final class ThawPoints {
         }
     }
 
-    private int doParts() {
-        state.stopPart = NONE;
-        state.stopReason = NONE;
-        works.at = 0;
-        int done = 0;
-        while (done < MAX_SIGNS && works.readPart()) {
-            int reason = reasonAgainstPart();
-            if (reason != 0) {
-                state.stopPart = done;
-                state.stopReason = reason;
-                return done;
-            }
-            doPart();
-            done++;
-            works.readSign(';');
-        }
-        return done;
-    }
-
-    private int reasonAgainstPart() {
-        int first = works.numbers[0];
-        switch (works.kind) {
-            case 'm': return state.hasRoom() ? 0 : NO_ROOM;
-            case 'c': return state.has(first) ? state.reasonNotToMeasure(first, works.numbers[1]) : NO_THERMOMETER;
-            case 'p': return state.has(first) ? state.reasonForNoPaper(first) : NO_THERMOMETER;
-            default: return 0;
-        }
-    }
-
-    private void doPart() {
+    /** Does the part that was read last, if its method would; returns why it would not, or 0. */
+    private int tryPart() {
         int first = works.numbers[0];
         int second = works.numbers[1];
         switch (works.kind) {
-            case 'm': state.addThermometer(first, second, works.numbers[2]); break;
-            case 'c': state.addPoint(first, second); break;
-            case 'y': state.letPass(first); break;
-            case 'p': state.giveSeal(first); break;
-            default: state.changeBath(first, second); break;
+            case 'm':
+                return tryToMake(first, second, works.numbers[2]);
+            case 'c':
+                return tryToMeasure(first, second);
+            case 'p':
+                return tryToSeal(first);
+            case 'y':
+                state.letPass(first);
+                return 0;
+            default:
+                state.changeBath(first, second);
+                return 0;
         }
+    }
+
+    private int tryToMake(int zero, int gain, int batch) {
+        if (!state.hasRoom()) {
+            return NO_ROOM;
+        }
+        state.addThermometer(zero, gain, batch);
+        return 0;
+    }
+
+    private int tryToMeasure(int thermometer, int bath) {
+        if (!state.has(thermometer) || !isWithin(bath, 0, LAST_BATH)) {
+            return NO_THERMOMETER;
+        }
+        Thermometer row = state.rows[thermometer];
+        int degree = state.baths[bath];
+        int reason = row.reasonNotToMeasure(degree);
+        if (reason == 0) {
+            row.addPoint(degree, state.year);
+        }
+        return reason;
+    }
+
+    private int tryToSeal(int thermometer) {
+        if (!state.has(thermometer)) {
+            return NO_THERMOMETER;
+        }
+        Thermometer row = state.rows[thermometer];
+        int reason = state.reasonForNoPaper(row);
+        if (reason == 0) {
+            state.giveSeal(row);
+        }
+        return reason;
     }
 
     private static long mixed(long hash, long value) {
@@ -540,34 +566,21 @@ public final class ThawPoints {
         void letPass(int years) {
             for (int passed = 0; passed < years; passed++) {
                 for (int index = 0; index < size; index++) {
-                    rows[index].growOlder(settings[rows[index].batch]);
+                    rows[index].growOlder(creepOf(rows[index]));
                 }
             }
             year += years;
         }
 
-        int reasonNotToMeasure(int thermometer, int bath) {
-            Thermometer row = rows[thermometer];
-            int degree = baths[bath];
-            if (row.points.size >= MAX_POINTS && row.points.indexOf(degree) == NONE) {
-                return TOO_MANY_POINTS;
-            }
-            return row.points.crosses(row.readingAt(degree), degree) ? CROSSES : 0;
-        }
-
-        void addPoint(int thermometer, int bath) {
-            Thermometer row = rows[thermometer];
-            int degree = baths[bath];
-            row.points.dropDegree(degree);
-            row.points.addLast(row.readingAt(degree), degree, year);
+        private int creepOf(Thermometer row) {
+            return row.batch >= 0 && row.batch <= LAST_BATCH ? settings[row.batch] : 0;
         }
 
         boolean isValid(Thermometer row) {
             return row.seal != NONE && row.crept - row.creptAtSeal <= settings[CREEP_SETTING];
         }
 
-        int reasonForNoPaper(int thermometer) {
-            Thermometer row = rows[thermometer];
+        int reasonForNoPaper(Thermometer row) {
             int ice = row.points.indexOf(ICE);
             int steam = row.points.indexOf(STEAM);
             if (ice == NONE || steam == NONE) {
@@ -593,8 +606,7 @@ public final class ThawPoints {
             return year - pointYear > settings[POINT_AGE_SETTING];
         }
 
-        void giveSeal(int thermometer) {
-            Thermometer row = rows[thermometer];
+        void giveSeal(Thermometer row) {
             seals++;
             row.seal = seals;
             row.creptAtSeal = row.crept;
@@ -609,7 +621,7 @@ public final class ThawPoints {
                 if (since > settings[CREEP_SETTING]) {
                     return years;
                 }
-                since += Thermometer.creepOfYear(settings[row.batch], row.age + years);
+                since += Thermometer.creepOfYear(creepOf(row), row.age + years);
             }
             return NONE;
         }
@@ -684,6 +696,18 @@ public final class ThawPoints {
         static int creepOfYear(int creep, int age) {
             int divisor = age + 1;
             return divisor > 0 ? Math.floorDiv(creep, divisor) : 0;
+        }
+
+        int reasonNotToMeasure(int degree) {
+            if (points.size >= MAX_POINTS && points.indexOf(degree) == NONE) {
+                return TOO_MANY_POINTS;
+            }
+            return points.crosses(readingAt(degree), degree) ? CROSSES : 0;
+        }
+
+        void addPoint(int degree, int year) {
+            points.dropDegree(degree);
+            points.addLast(readingAt(degree), degree, year);
         }
 
         int overlapWith(Thermometer other, int degree) {
