@@ -928,7 +928,7 @@ public final class ThawPoints {
         int length;
         final char[] signs = new char[MAX_SIGNS];
         int at;
-        char kind;
+        int kind;
         final int[] numbers = new int[MAX_NUMBERS];
         private int numbersRead;
 
@@ -983,12 +983,12 @@ public final class ThawPoints {
             return true;
         }
 
-        private char nextSign() {
+        private int nextSign() {
             return at < length ? signs[at] : 0;
         }
 
         private int nextDigit() {
-            char sign = nextSign();
+            int sign = nextSign();
             return sign >= '0' && sign <= '9' ? sign - '0' : NONE;
         }
 

@@ -9,6 +9,7 @@ public final class PointsTest {
         promise8Forget();
         promise9Paper();
         promise9Overlap();
+        promise9OverlapAt500();
         check.end();
     }
 
@@ -203,6 +204,7 @@ public final class PointsTest {
         check.due("papers so far", x.count(4), 2);
         check.due("undo of paper", x.undo(), 5);
         check.due("seal after undo", x.thermometer(0, 5), 1);
+        check.due("the old paper is void after undo", x.thermometer(0, 6), 0);
         check.due("papers so far after undo", x.count(4), 1);
         x.breakOne(0);
         x.make(0, 0, 0);
@@ -248,5 +250,27 @@ public final class PointsTest {
         x.measure(0, 1);
         check.due("overlap then", x.overlap(0, 1, 500), 0);
         check.due("paper of the other then", x.paper(0), 3);
+    }
+
+    /** The second one, measured again in a bath after the creep, differs by the least too much at 500 alone. */
+    private static void dueTooWide(int creep, int bath, int before, int here, int behind) {
+        ThawPoints x = new ThawPoints();
+        x.set(3, creep);
+        x.set(6, 100);
+        Check.doWork(x, "m0,0/3;m0,0/3;c0:0;c0:1;c1:0;c1:1;p0;y1");
+        x.measure(1, bath);
+        check.due("overlap at 499", x.overlap(0, 1, 499), before);
+        check.due("overlap at 500", x.overlap(0, 1, 500), here);
+        check.due("overlap at 501", x.overlap(0, 1, 501), behind);
+        x.set(5, here - 1);
+        check.due("reason of the overlap at 500", x.thermometer(1, 7), 6);
+        check.noState(x, "paper with the overlap at 500", () -> x.paper(1));
+        x.set(5, here);
+        check.due("paper without it", x.paper(1), 2);
+    }
+
+    private static void promise9OverlapAt500() {
+        dueTooWide(46, 1, 24, 25, 25);
+        dueTooWide(31, 0, 16, 16, 15);
     }
 }
