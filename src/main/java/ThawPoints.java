@@ -44,6 +44,7 @@ public final class ThawPoints {
 
     private static final int[] FIRST_BATHS = {0, 1000, 370, -100};
     private static final int[] FIRST_SETTINGS = {12, 6, 20, 0, 2, 4, 10};
+    private static final int[] HASHED_READINGS = {0, 500, 1100};
     private static final int[] SETTING_LIMITS = {60, 60, 60, 60, 20, 100, 100};
 
     private final State state = new State();
@@ -461,14 +462,9 @@ public final class ThawPoints {
     private long mixedReadings(long before, int thermometer) {
         long hash = mixed(before, reads(thermometer, ICE));
         hash = mixed(hash, reads(thermometer, STEAM));
-        for (int way = 0; way <= 1; way++) {
-            hash = mixed(hash, corrected(thermometer, 0, way));
-        }
-        for (int way = 0; way <= 1; way++) {
-            hash = mixed(hash, corrected(thermometer, 500, way));
-        }
-        for (int way = 0; way <= 1; way++) {
-            hash = mixed(hash, corrected(thermometer, 1100, way));
+        for (int reading : HASHED_READINGS) {
+            hash = mixed(hash, corrected(thermometer, reading, 0));
+            hash = mixed(hash, corrected(thermometer, reading, 1));
         }
         return hash;
     }
