@@ -1,6 +1,11 @@
+import java.util.function.Supplier;
+
 /** What the tests share: answers are compared, and what is wrong is printed and counted. */
 final class Check {
+    private static final int MOST_TOLD = 40;
+
     private final String test;
+    private String sentence = "";
     private int wrong;
     private int done;
 
@@ -10,6 +15,44 @@ final class Check {
 
     interface Call {
         long answer();
+    }
+
+    interface Of {
+        long answer(ThawPoints x, int value);
+    }
+
+    /** The answers that follow keep these words of a promise, or of the terms (promise 0); the document tells them. */
+    void keeps(int promise, String words) {
+        sentence = (promise == Document.TERMS ? "Terms" : "Promise " + promise) + ", \"" + words + "\": ";
+        done++;
+        if (Document.isAtHand() && !Document.tells(promise, words)) {
+            fail("the document does not tell this");
+        }
+    }
+
+    /** The least and the greatest value are taken; those next to them, and the ends of int, change nothing. */
+    void allows(String call, Supplier<ThawPoints> made, int least, int greatest,
+            Class<? extends RuntimeException> refusal, Of of) {
+        for (int value : new int[] {least, greatest}) {
+            done++;
+            try {
+                of.answer(made.get(), value);
+            } catch (RuntimeException e) {
+                fail(call + " of " + value + " threw " + e);
+            }
+        }
+        for (int value : new int[] {least - 1, greatest + 1, Integer.MIN_VALUE, Integer.MAX_VALUE}) {
+            ThawPoints x = made.get();
+            refuses(x, call + " of " + value, refusal, () -> of.answer(x, value));
+        }
+    }
+
+    void allowsIndex(String call, Supplier<ThawPoints> made, int least, int greatest, Of of) {
+        allows(call, made, least, greatest, IndexOutOfBoundsException.class, of);
+    }
+
+    void allowsArgument(String call, Supplier<ThawPoints> made, int least, int greatest, Of of) {
+        allows(call, made, least, greatest, IllegalArgumentException.class, of);
     }
 
     void due(String call, long got, long want) {
@@ -57,7 +100,9 @@ final class Check {
 
     void fail(String what) {
         wrong++;
-        System.out.println(test + ": " + what);
+        if (wrong <= MOST_TOLD) {
+            System.out.println(test + ": " + sentence + what);
+        }
     }
 
     void end() {
