@@ -20,8 +20,8 @@ public final class ReadmeTest {
     public static void main(String[] args) throws IOException {
         run();
         List<String> readme = Files.readAllLines(README);
-        sameRun(asTest(between(readme, "```java", "```")),
-                between(Files.readAllLines(TESTS.resolve("ReadmeTest.java")), "    private static void run() {", "    }"));
+        List<String> here = Files.readAllLines(TESTS.resolve("ReadmeTest.java"));
+        sameRun(asTest(between(readme, "```java", "```")), between(here, "    private static void run() {", "    }"));
         namesTheFace(readme);
         namesTheTests(readme);
         check.end();
